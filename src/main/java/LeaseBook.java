@@ -757,7 +757,7 @@ public final class LeaseBook {
             for (int i = 0; i < subleaseCount; i++) {
                 Sublease passing = subleaseAt(i);
                 Lease head = passing == null ? null : leaseAt(passing.head);
-                if (head != null) {
+                if (passing != null && head != null) {
                     passing.passPeriods(passed, head);
                 }
             }

@@ -1,3 +1,6 @@
+import java.util.ArrayList;
+import java.util.List;
+
 /**
  * Every promise by numbers reckoned by hand. By a rate of 2000, payments of 1000 are worth
  * 833, 1528 (1527.5 rounded up), 2107 for one, two, three periods.
@@ -41,6 +44,7 @@ final class PromisesTest {
         fairReceipt();
         offShare();
         digest();
+        digestOfShares();
         orderOfExceptions();
         CHECK.end("PromisesTest");
     }
@@ -581,6 +585,8 @@ final class PromisesTest {
         due("count of periods", book.count(2), 3);
         book.pass(3);
         due("count when none runs", book.count(9), -1);
+        book.open(0, 60, 0, 0);
+        due("count of one with 60 periods", book.count(9), 3);
         CHECK.throwing("count -1", () -> book.count(-1), Check.ARGUMENT);
         CHECK.throwing("count 11", () -> book.count(11), Check.ARGUMENT);
     }
@@ -676,8 +682,10 @@ final class PromisesTest {
         book.open(1000, 1, 0, 1);
         due("rateWithin of none", book.rateWithin(3), -1);
         book.impair(1, 952);
+        book.open(100000, 1, 0, 0);
+        due("rateWithin of rate 0 alone", book.rateWithin(4), 0);
         due("rateWithin without an asset", book.rateWithin(1), 2000);
-        CHECK.throwing("rateWithin no lease", () -> book.rateWithin(4), Check.INDEX);
+        CHECK.throwing("rateWithin no lease", () -> book.rateWithin(5), Check.INDEX);
         CHECK.throwing("rateWithin -1", () -> book.rateWithin(-1), Check.INDEX);
         book.pass(1);
         due("rateWithin an ended lease", book.rateWithin(0), -1);
@@ -708,6 +716,9 @@ final class PromisesTest {
         large.open(100000, 2, 0, 0);
         due("fairReceipt of 100000", large.fairReceipt(0, 500, 1), 100000);
         due("fairReceipt that is none", large.fairReceipt(0, 501, 1), -1);
+        LeaseBook small = new LeaseBook();
+        small.open(1, 1, 0, 0);
+        due("fairReceipt of the least part", small.fairReceipt(0, 1000, 1), 1);
         for (int i = 0; i < 12; i++) {
             large.sublet(0, 1, 1, 1);
         }
@@ -724,7 +735,9 @@ final class PromisesTest {
         book.open(0, 5, 0, 9);
         book.sublet(0, 1, 7, 1);
         share(book, 0.0);
-        book.open(3, 1, 0, 0);
+        book.open(1, 1, 0, 0);
+        share(book, 7.0);
+        book.rent(1, 3);
         share(book, 7.0 / 3.0);
         book.open(100, 7, 0, 0);
         share(book, 7.0 / 703.0);
@@ -751,6 +764,69 @@ final class PromisesTest {
                 4000, 0, 0, 0, 0, 4000, 0, 0, 0, 400, 0, 1200, 0, 0, 0, 0, 0,
                 800, 800, 1000, 900, 300, 0, 12000, 11600, 0, 12500, 434, 360,
                 0, 100, 300, 4, 0, 1200, Double.doubleToLongBits(0.3), 1, '~'));
+    }
+
+    /** The digest as the document tells it, by the other calls. */
+    private static long told(LeaseBook book, String text) {
+        List<Long> values = new ArrayList<>();
+        for (int what = 0; what <= 10; what++) {
+            values.add((long) book.count(what));
+        }
+        for (int lease = 0; lease < book.count(0); lease++) {
+            for (int what = 0; what <= 8; what++) {
+                values.add((long) book.lease(lease, what));
+            }
+            for (int kind = 0; kind <= 16; kind++) {
+                values.add((long) book.movement(lease, kind));
+            }
+            values.add((long) book.profit(lease, 0));
+            values.add((long) book.profit(lease, 1));
+            for (int what = 0; what <= 3; what++) {
+                values.add((long) book.plan(lease, 3, what));
+            }
+            for (int what = 0; what <= 2; what++) {
+                values.add((long) book.ifMeasured(lease, book.lease(lease, 0), 12, book.lease(lease, 2), what));
+            }
+            values.add((long) book.paymentFor(lease, 50000));
+            values.add((long) book.rateWithin(lease));
+            values.add((long) book.fairReceipt(lease, 100, 1));
+        }
+        for (int sublease = 0; sublease < book.count(1); sublease++) {
+            for (int what = 0; what <= 5; what++) {
+                values.add((long) book.sublease(sublease, what));
+            }
+        }
+        values.add(Double.doubleToLongBits(book.offShare()));
+        values.add((long) text.length());
+        for (int i = 0; i < text.length(); i++) {
+            values.add((long) text.charAt(i));
+        }
+        return hash(values.stream().mapToLong(Long::longValue).toArray());
+    }
+
+    private static void digestOfShares() {
+        int[][] shares = {{1, 1}, {2, 1}, {4, 1}, {100000, 1}, {99999, 1}, {1, 2}, {1, 3}, {1, 10}, {1, 11}, {1, 50000},
+            {1, 65536}, {7, 3}, {3, 7}, {11, 10}, {19, 10}, {21, 10}, {0, 5}, {5, 0}, {99991, 99989}};
+        for (int[] share : shares) {
+            LeaseBook book = new LeaseBook();
+            book.open(share[1], 1, 0, 0);
+            book.sublet(0, 1, share[0], 1);
+            write(book, "!~");
+            due("digest with the share " + share[0] + " / " + share[1], book.digest(), told(book, "!~"));
+        }
+        LeaseBook large = new LeaseBook();
+        large.open(1, 60, 2000, 0);
+        large.open(100000, 60, 0, 0);
+        for (int i = 0; i < 11; i++) {
+            large.sublet(1, 1, 100000, 60);
+        }
+        due("digest of the largest share that is not whole", large.digest(), told(large, ""));
+        large.rent(1, 0);
+        due("digest of 66000000 / 3", large.digest(), told(large, ""));
+        large.pass(59);
+        due("digest behind 59", large.digest(), told(large, ""));
+        large.pass(1);
+        due("digest when all has ended", large.digest(), told(large, ""));
     }
 
     /** If several exceptions apply, the one that is named first is thrown. */
