@@ -1,4 +1,3 @@
-import java.math.BigInteger;
 import java.util.ArrayList;
 import java.util.List;
 import java.util.regex.Matcher;
@@ -47,15 +46,13 @@ final class Model {
     private final List<Saved> saved = new ArrayList<>();
 
     static int worthOf(int payment, int periods, int rate) {
-        BigInteger worth = BigInteger.ZERO;
-        BigInteger divisor = BigInteger.valueOf(10000 + rate);
+        long worth = 0;
         for (int m = 1; m <= periods; m++) {
-            BigInteger up = worth.add(BigInteger.valueOf(payment)).multiply(BigInteger.valueOf(10000));
-            BigInteger[] parts = up.divideAndRemainder(divisor);
-            boolean half = parts[1].shiftLeft(1).compareTo(divisor) >= 0;
-            worth = half ? parts[0].add(BigInteger.ONE) : parts[0];
+            long up = (worth + payment) * 10000;
+            long rest = up % (10000 + rate);
+            worth = up / (10000 + rate) + (rest * 2 >= 10000 + rate ? 1 : 0);
         }
-        return worth.intValueExact();
+        return (int) worth;
     }
 
     private Model twin() {
