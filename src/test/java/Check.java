@@ -40,6 +40,10 @@ final class Check {
         }
     }
 
+    int looked() {
+        return looked;
+    }
+
     boolean anyWrong() {
         return wrong > 0;
     }

@@ -3,9 +3,12 @@ import java.util.function.LongSupplier;
 
 /** Long runs of calls, by a fixed seed, on a LeaseBook and on the Model: every answer must be the same. */
 final class ModelTest {
-    private static final int RUNS = 200;
+    private static final int RUNS = 300;
+    /** What an object answers behind its 512th call is free. */
     private static final int CALLS = 512;
-    /** The Model's digest looks at every rate, so it is not asked behind every call. */
+    /** The calls that a turn makes at the most: those that write a piece of the text, and a digest. */
+    private static final int CALLS_OF_A_TURN = 24;
+    /** The Model's digest looks at every rate, so it is not asked behind every turn. */
     private static final int DIGEST_EVERY = 7;
     private static final int[] ODD = {Integer.MIN_VALUE, -1, 0, 1, 2, 3, 8, 11, 12, 16, 17, 59, 60, 61, 999, 1000,
         1001, 1999, 2000, 2001, 99999, 100000, 100001, 1000000, 1000001, 10000000, 10000001, Integer.MAX_VALUE};
@@ -15,10 +18,11 @@ final class ModelTest {
     private final Check check = new Check();
     private final Random random;
     private final int oddness;
-    /** Runs that hurry come to the last period. */
+    /** Runs that hurry begin in a late period, and come to the last one. */
     private final boolean hurries;
-    private LeaseBook book = new LeaseBook();
-    private Model model = new Model();
+    private final LeaseBook book = new LeaseBook();
+    private final Model model = new Model();
+    private int calls;
 
     private ModelTest(int seed) {
         random = new Random(seed);
@@ -40,10 +44,14 @@ final class ModelTest {
     }
 
     private void run(int seed) {
-        for (int call = 0; call < CALLS && !check.anyWrong(); call++) {
-            oneCall("seed " + seed + " call " + call);
-            if (call % DIGEST_EVERY == 0) {
-                check.due("seed " + seed + " digest behind call " + call, book.digest(), model.digest());
+        for (int i = 0; hurries && i < 30; i++) {
+            same("seed " + seed, "pass", () -> book.pass(60), () -> model.pass(60));
+        }
+        for (int turn = 0; calls <= CALLS - CALLS_OF_A_TURN && !check.anyWrong(); turn++) {
+            String where = "seed " + seed + " turn " + turn;
+            oneTurn(where);
+            if (turn % DIGEST_EVERY == 0) {
+                same(where, "digest", () -> book.digest(), () -> model.digest());
             }
         }
     }
@@ -65,11 +73,12 @@ final class ModelTest {
     }
 
     private void same(String where, String call, LongSupplier got, LongSupplier want) {
+        calls++;
         String due = Check.outcome(want);
         check.same(where + ": " + call, Check.outcome(got), due);
     }
 
-    private void oneCall(String where) {
+    private void oneTurn(String where) {
         int kind = random.nextInt(26);
         if (kind < 12) {
             change(where, kind);

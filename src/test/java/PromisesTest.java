@@ -1,6 +1,3 @@
-import java.util.ArrayList;
-import java.util.List;
-
 /**
  * Every promise by numbers reckoned by hand. By a rate of 2000, payments of 1000 are worth
  * 833, 1528 (1527.5 rounded up), 2107 for one, two, three periods.
@@ -53,35 +50,6 @@ final class PromisesTest {
         CHECK.due(call, got, want);
     }
 
-    private static LeaseBook three() {
-        LeaseBook book = new LeaseBook();
-        book.open(1000, 3, 2000, 100);
-        return book;
-    }
-
-    private static LeaseBook full() {
-        LeaseBook book = new LeaseBook();
-        for (int i = 0; i < 8; i++) {
-            book.open(100 * i, 8 - i, 0, 0);
-        }
-        return book;
-    }
-
-    /** A lease of 6 periods of 1000 by no rate, half of it sublet for 3 and a quarter for 6 periods. */
-    private static LeaseBook letOn() {
-        LeaseBook book = new LeaseBook();
-        book.open(1000, 6, 0, 0);
-        book.sublet(0, 500, 900, 3);
-        book.sublet(0, 250, 400, 6);
-        return book;
-    }
-
-    private static void write(LeaseBook book, String text) {
-        for (int i = 0; i < text.length(); i++) {
-            book.append(text.charAt(i));
-        }
-    }
-
     private static void movements(String name, LeaseBook book, int lease, int... want) {
         for (int kind = 0; kind < want.length; kind++) {
             due(name + ": movement " + kind, book.movement(lease, kind), want[kind]);
@@ -117,8 +85,8 @@ final class PromisesTest {
         }
         due("open: leases behind wrong ones", book.count(0), 3);
         due("open: saved states behind wrong ones", book.count(10), 3);
-        CHECK.throwing("open a ninth", () -> full().open(1, 1, 0, 0), Check.STATE);
-        LeaseBook again = three();
+        CHECK.throwing("open a ninth", () -> Books.full().open(1, 1, 0, 0), Check.STATE);
+        LeaseBook again = Books.three();
         again.impair(0, 7);
         again.undo();
         again.undo();
@@ -127,7 +95,7 @@ final class PromisesTest {
     }
 
     private static void term() {
-        LeaseBook book = three();
+        LeaseBook book = Books.three();
         due("term", book.term(0, 2, 0), 2000);
         due("term: periods", book.lease(0, 1), 2);
         due("term: rate", book.lease(0, 2), 0);
@@ -148,7 +116,7 @@ final class PromisesTest {
     }
 
     private static void termCutsSubleases() {
-        LeaseBook book = letOn();
+        LeaseBook book = Books.letOn();
         due("term that cuts", book.term(0, 4, 0), 4000);
         due("cut: the short one stays", book.sublease(0, 3), 3);
         due("cut: the long one", book.sublease(1, 3), 4);
@@ -157,7 +125,7 @@ final class PromisesTest {
         book.term(0, 60, 100);
         due("a longer term cuts nothing", book.sublease(1, 3), 4);
         due("a sublease keeps its rate", book.sublease(1, 4), 0);
-        LeaseBook two = letOn();
+        LeaseBook two = Books.letOn();
         two.open(5, 6, 0, 0);
         two.sublet(1, 1, 7, 6);
         two.term(0, 1, 0);
@@ -167,7 +135,7 @@ final class PromisesTest {
     }
 
     private static void rent() {
-        LeaseBook book = three();
+        LeaseBook book = Books.three();
         due("rent", book.rent(0, 2000), 4213);
         due("rent: payment", book.lease(0, 0), 2000);
         due("rent: periods", book.lease(0, 1), 3);
@@ -194,7 +162,7 @@ final class PromisesTest {
     }
 
     private static void endPart() {
-        LeaseBook book = three();
+        LeaseBook book = Books.three();
         due("endPart", book.endPart(0, 333, 50), 2107 - 1405 - 734 - 50);
         due("endPart: payment", book.lease(0, 0), 667);
         due("endPart: liability", book.lease(0, 3), 1405);
@@ -214,7 +182,7 @@ final class PromisesTest {
         CHECK.throwing("endPart of 1001", () -> book.endPart(0, 1001, 0), Check.ARGUMENT);
         CHECK.throwing("endPart for -1", () -> book.endPart(0, 1, -1), Check.ARGUMENT);
         CHECK.throwing("endPart for 100001", () -> book.endPart(0, 1, 100001), Check.ARGUMENT);
-        LeaseBook let = letOn();
+        LeaseBook let = Books.letOn();
         CHECK.throwing("endPart while sublet", () -> let.endPart(0, 1, 0), Check.STATE);
         let.term(0, 7, 0);
         let.pass(6);
@@ -224,7 +192,7 @@ final class PromisesTest {
     }
 
     private static void impair() {
-        LeaseBook book = three();
+        LeaseBook book = Books.three();
         due("impair", book.impair(0, 207), 2000);
         due("impair: movement 10", book.movement(0, 10), 207);
         due("impair: liability", book.lease(0, 3), 2107);
@@ -260,7 +228,7 @@ final class PromisesTest {
     }
 
     private static void subletTakesNoMore() {
-        LeaseBook book = letOn();
+        LeaseBook book = Books.letOn();
         CHECK.throwing("sublet for longer than the lease", () -> book.sublet(0, 1, 1, 7), Check.STATE);
         CHECK.throwing("sublet 251 beside 750", () -> book.sublet(0, 251, 1, 1), Check.STATE);
         book.pass(3);
@@ -271,13 +239,13 @@ final class PromisesTest {
         }
         CHECK.throwing("sublet a thirteenth", () -> book.sublet(1, 1, 1, 1), Check.STATE);
         due("sublet: there are 12", book.count(1), 12);
-        LeaseBook ended = three();
+        LeaseBook ended = Books.three();
         ended.pass(3);
         CHECK.throwing("sublet an ended lease", () -> ended.sublet(0, 1, 1, 1), Check.STATE);
     }
 
     private static void pass() {
-        LeaseBook book = three();
+        LeaseBook book = Books.three();
         due("pass", book.pass(1), 1);
         due("pass: liability", book.lease(0, 3), 1528);
         due("pass: asset", book.lease(0, 4), 2207 - 735);
@@ -299,7 +267,7 @@ final class PromisesTest {
         due("written off: 8 by 3", uneven.lease(0, 4), 6);
         uneven.pass(1);
         due("written off: 6 by 2", uneven.lease(0, 4), 3);
-        LeaseBook let = three();
+        LeaseBook let = Books.three();
         let.sublet(0, 1, 1000, 2);
         let.pass(1);
         due("receipts: receivable", let.sublease(0, 5), 833);
@@ -341,8 +309,8 @@ final class PromisesTest {
     }
 
     private static void clearBuffer() {
-        LeaseBook book = three();
-        write(book, "12*");
+        LeaseBook book = Books.three();
+        Books.write(book, "12*");
         due("clearBuffer", book.clearBuffer(), 3);
         due("clearBuffer again", book.clearBuffer(), 0);
         due("clearBuffer saves nothing", book.count(10), 1);
@@ -352,7 +320,7 @@ final class PromisesTest {
 
     private static void error(String text, int want) {
         LeaseBook book = new LeaseBook();
-        write(book, text);
+        Books.write(book, text);
         due("firstError of " + text, book.firstError(), want);
     }
 
@@ -406,7 +374,7 @@ final class PromisesTest {
 
     private static void openAll() {
         LeaseBook book = new LeaseBook();
-        write(book, "1000*3@2000+100;7*2@0");
+        Books.write(book, "1000*3@2000+100;7*2@0");
         due("openAll", book.openAll(), 2);
         due("openAll clears the buffer", book.clearBuffer(), 0);
         due("openAll: first payment", book.lease(0, 0), 1000);
@@ -416,14 +384,14 @@ final class PromisesTest {
         due("openAll: a cost left out is 0", book.movement(1, 15), 0);
         due("openAll: second asset", book.lease(1, 4), 14);
         due("openAll saves once", book.count(10), 1);
-        write(book, "0*1@0");
+        Books.write(book, "0*1@0");
         due("openAll once more", book.openAll(), 3);
-        write(book, "55");
+        Books.write(book, "55");
         due("openAll is undone as one", book.undo(), 1);
         due("openAll is undone wholly", book.undo(), 0);
         due("openAll: no leases again", book.count(0), 0);
         due("undo leaves the buffer", book.clearBuffer(), 2);
-        write(book, "0*1@0;0*1@0;0*1@0;0*1@0;0*1@0;0*1@0;0*1@0;0*1@0");
+        Books.write(book, "0*1@0;0*1@0;0*1@0;0*1@0;0*1@0;0*1@0;0*1@0;0*1@0");
         due("openAll of 8", book.openAll(), 8);
     }
 
@@ -432,26 +400,26 @@ final class PromisesTest {
             "1*1@1x", "1*1@1;;1*1@1"};
         for (String text : wrong) {
             LeaseBook book = new LeaseBook();
-            write(book, text);
+            Books.write(book, text);
             CHECK.throwing("openAll of " + text, () -> book.openAll(), Check.ARGUMENT);
             due("openAll leaves the buffer", book.clearBuffer(), text.length());
             due("openAll opens none", book.count(0), 0);
             due("openAll saves nothing", book.count(10), 0);
         }
-        LeaseBook book = three();
-        write(book, "0*1@0;0*1@0;0*1@0;0*1@0;0*1@0;0*1@0;0*1@0;0*1@0");
+        LeaseBook book = Books.three();
+        Books.write(book, "0*1@0;0*1@0;0*1@0;0*1@0;0*1@0;0*1@0;0*1@0;0*1@0");
         CHECK.throwing("openAll to 9", () -> book.openAll(), Check.STATE);
         due("openAll to 9 leaves the buffer", book.clearBuffer(), 47);
         due("openAll to 9 opens none", book.count(0), 1);
         due("openAll to 9 saves nothing", book.count(10), 1);
-        LeaseBook filled = full();
+        LeaseBook filled = Books.full();
         CHECK.throwing("openAll of nothing with 8 leases", () -> filled.openAll(), Check.ARGUMENT);
-        write(filled, "0*1@0");
+        Books.write(filled, "0*1@0");
         CHECK.throwing("openAll with 8 leases", () -> filled.openAll(), Check.STATE);
     }
 
     private static void undo() {
-        LeaseBook book = three();
+        LeaseBook book = Books.three();
         for (int i = 1; i <= 7; i++) {
             book.impair(0, i);
         }
@@ -477,7 +445,7 @@ final class PromisesTest {
     }
 
     private static void undoOfEachCall() {
-        LeaseBook book = letOn();
+        LeaseBook book = Books.letOn();
         book.open(1000, 5, 500, 10);
         book.clearBuffer();
         undone("open", book, () -> book.open(5, 6, 7, 8));
@@ -488,7 +456,7 @@ final class PromisesTest {
         undone("sublet", book, () -> book.sublet(1, 100, 50, 5));
         undone("pass", book, () -> book.pass(4));
         undone("openAll", book, () -> {
-            write(book, "1*2@3;4*5@6");
+            Books.write(book, "1*2@3;4*5@6");
             book.openAll();
         });
     }
@@ -500,7 +468,7 @@ final class PromisesTest {
     }
 
     private static void lease() {
-        LeaseBook book = letOn();
+        LeaseBook book = Books.letOn();
         properties("lease", book, 0, 1000, 6, 0, 6000, 2250, 5100, 900, 750, 2);
         book.open(1, 2, 3, 4);
         properties("lease beside it", book, 1, 1, 2, 3, 2, 6, 0, 2, 0, 0);
@@ -514,7 +482,7 @@ final class PromisesTest {
     }
 
     private static void sublease() {
-        LeaseBook book = letOn();
+        LeaseBook book = Books.letOn();
         book.open(1000, 3, 2000, 0);
         book.sublet(1, 7, 1000, 2);
         int[] want = {1, 7, 1000, 2, 2000, 1528};
@@ -569,7 +537,7 @@ final class PromisesTest {
     }
 
     private static void count() {
-        LeaseBook book = letOn();
+        LeaseBook book = Books.letOn();
         book.open(10, 2, 0, 5);
         book.open(10, 2, 0, 0);
         int[] want = {3, 2, 0, 3, 2, 6040, 2250 + 45, 5100, 5100 - 3750, 1, 5};
@@ -610,9 +578,10 @@ final class PromisesTest {
     }
 
     private static void plan() {
-        LeaseBook book = three();
+        LeaseBook book = Books.three();
         book.sublet(0, 1, 1000, 2);
-        int[][] want = {{2107, 2205, 1528, 0}, {1528, 1470, 833, 421}, {833, 735, 0, 305}, {0, 0, 0, 167}, {0, 0, 0, 0}};
+        int[][] want = {{2107, 2205, 1528, 0}, {1528, 1470, 833, 421}, {833, 735, 0, 305}, {0, 0, 0, 167},
+            {0, 0, 0, 0}};
         long ahead = book.digest();
         for (int periods = 0; periods < want.length; periods++) {
             for (int what = 0; what < 4; what++) {
@@ -629,7 +598,7 @@ final class PromisesTest {
     }
 
     private static void ifMeasured() {
-        LeaseBook book = letOn();
+        LeaseBook book = Books.letOn();
         long ahead = book.digest();
         due("ifMeasured: liability", book.ifMeasured(0, 500, 4, 0, 0), 2000);
         due("ifMeasured: asset, at least 0", book.ifMeasured(0, 500, 4, 0, 1), 0);
@@ -653,7 +622,7 @@ final class PromisesTest {
     }
 
     private static void paymentFor() {
-        LeaseBook book = three();
+        LeaseBook book = Books.three();
         due("paymentFor", book.paymentFor(0, 2107), 1000);
         due("paymentFor one more", book.paymentFor(0, 2108), 1001);
         due("paymentFor one less", book.paymentFor(0, 2106), 999);
@@ -692,7 +661,7 @@ final class PromisesTest {
     }
 
     private static void fairReceipt() {
-        LeaseBook book = three();
+        LeaseBook book = Books.three();
         // 734 of the asset: 881 is worth 734 (734.17), 880 is worth 733 (733.33).
         due("fairReceipt of 1", book.fairReceipt(0, 333, 1), 881);
         book.sublet(0, 333, 881, 1);
@@ -745,63 +714,17 @@ final class PromisesTest {
         share(book, 0.0);
     }
 
-    private static long hash(long... values) {
-        long hash = 2467;
-        for (long value : values) {
-            hash = 31 * hash + value;
-        }
-        return hash;
-    }
-
     private static void digest() {
         LeaseBook book = new LeaseBook();
-        due("digest of a new object", book.digest(), hash(0, 0, 0, 0, 0, 0, 0, 0, 0, -1, 0, 0, 0));
+        due("digest of a new object", book.digest(), Told.hash(0, 0, 0, 0, 0, 0, 0, 0, 0, -1, 0, 0, 0));
         book.open(1000, 4, 0, 0);
         book.sublet(0, 100, 300, 4);
         book.append('~');
-        due("digest", book.digest(), hash(1, 1, 0, 1, 1, 4000, 3600, 1200, 800, 0, 2,
+        due("digest", book.digest(), Told.hash(1, 1, 0, 1, 1, 4000, 3600, 1200, 800, 0, 2,
                 1000, 4, 0, 4000, 3600, 1200, 2800, 100, 1,
                 4000, 0, 0, 0, 0, 4000, 0, 0, 0, 400, 0, 1200, 0, 0, 0, 0, 0,
                 800, 800, 1000, 900, 300, 0, 12000, 11600, 0, 12500, 434, 360,
                 0, 100, 300, 4, 0, 1200, Double.doubleToLongBits(0.3), 1, '~'));
-    }
-
-    /** The digest as the document tells it, by the other calls. */
-    private static long told(LeaseBook book, String text) {
-        List<Long> values = new ArrayList<>();
-        for (int what = 0; what <= 10; what++) {
-            values.add((long) book.count(what));
-        }
-        for (int lease = 0; lease < book.count(0); lease++) {
-            for (int what = 0; what <= 8; what++) {
-                values.add((long) book.lease(lease, what));
-            }
-            for (int kind = 0; kind <= 16; kind++) {
-                values.add((long) book.movement(lease, kind));
-            }
-            values.add((long) book.profit(lease, 0));
-            values.add((long) book.profit(lease, 1));
-            for (int what = 0; what <= 3; what++) {
-                values.add((long) book.plan(lease, 3, what));
-            }
-            for (int what = 0; what <= 2; what++) {
-                values.add((long) book.ifMeasured(lease, book.lease(lease, 0), 12, book.lease(lease, 2), what));
-            }
-            values.add((long) book.paymentFor(lease, 50000));
-            values.add((long) book.rateWithin(lease));
-            values.add((long) book.fairReceipt(lease, 100, 1));
-        }
-        for (int sublease = 0; sublease < book.count(1); sublease++) {
-            for (int what = 0; what <= 5; what++) {
-                values.add((long) book.sublease(sublease, what));
-            }
-        }
-        values.add(Double.doubleToLongBits(book.offShare()));
-        values.add((long) text.length());
-        for (int i = 0; i < text.length(); i++) {
-            values.add((long) text.charAt(i));
-        }
-        return hash(values.stream().mapToLong(Long::longValue).toArray());
     }
 
     private static void digestOfShares() {
@@ -811,27 +734,32 @@ final class PromisesTest {
             LeaseBook book = new LeaseBook();
             book.open(share[1], 1, 0, 0);
             book.sublet(0, 1, share[0], 1);
-            write(book, "!~");
-            due("digest with the share " + share[0] + " / " + share[1], book.digest(), told(book, "!~"));
+            Books.write(book, "!~");
+            due("digest with the share " + share[0] + " / " + share[1], book.digest(), Told.digest(book, "!~"));
         }
-        LeaseBook large = new LeaseBook();
-        large.open(1, 60, 2000, 0);
-        large.open(100000, 60, 0, 0);
-        for (int i = 0; i < 11; i++) {
-            large.sublet(1, 1, 100000, 60);
+        for (int steps = 0; steps <= 3; steps++) {
+            LeaseBook large = new LeaseBook();
+            large.open(1, 60, 2000, 0);
+            large.open(100000, 60, 0, 0);
+            for (int i = 0; i < 11; i++) {
+                large.sublet(1, 1, 100000, 60);
+            }
+            if (steps > 0) {
+                large.rent(1, 0);
+            }
+            if (steps > 1) {
+                large.pass(59);
+            }
+            if (steps > 2) {
+                large.pass(1);
+            }
+            due("digest of a large share behind " + steps + " steps", large.digest(), Told.digest(large, ""));
         }
-        due("digest of the largest share that is not whole", large.digest(), told(large, ""));
-        large.rent(1, 0);
-        due("digest of 66000000 / 3", large.digest(), told(large, ""));
-        large.pass(59);
-        due("digest behind 59", large.digest(), told(large, ""));
-        large.pass(1);
-        due("digest when all has ended", large.digest(), told(large, ""));
     }
 
     /** If several exceptions apply, the one that is named first is thrown. */
     private static void orderOfExceptions() {
-        LeaseBook book = full();
+        LeaseBook book = Books.full();
         CHECK.throwing("open wrong, full", () -> book.open(-1, 1, 0, 0), Check.ARGUMENT);
         CHECK.throwing("term wrong, nowhere", () -> book.term(8, 0, 0), Check.INDEX);
         CHECK.throwing("rent wrong, nowhere", () -> book.rent(8, -1), Check.INDEX);
