@@ -47,8 +47,10 @@ final class Told {
         for (int what = 0; what <= 3; what++) {
             values.add((long) book.plan(lease, 3, what));
         }
+        int payment = book.lease(lease, 0);
+        int rate = book.lease(lease, 2);
         for (int what = 0; what <= 2; what++) {
-            values.add((long) book.ifMeasured(lease, book.lease(lease, 0), 12, book.lease(lease, 2), what));
+            values.add((long) book.ifMeasured(lease, payment, 12, rate, what));
         }
         values.add((long) book.paymentFor(lease, 50000));
         values.add((long) book.rateWithin(lease));
