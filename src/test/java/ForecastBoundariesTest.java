@@ -145,6 +145,14 @@ final class ForecastBoundariesTest extends Boundary {
         due("behind 60", book.plan(0, 60, 2), 0);
     }
 
+    void promise20ASubleaseOfAnotherLeaseDoesNotMatter() {
+        LeaseBook book = Books.three();
+        book.open(1000, 3, 0, 0);
+        book.sublet(1, 500, 900, 3);
+        due("receivables", book.plan(0, 1, 2), 0);
+        due("receivables of the other lease", book.plan(1, 1, 2), 1800);
+    }
+
     void promise20TheLimitOf2000DoesNotMatter() {
         LeaseBook book = Books.inPeriod(2000);
         book.open(1000, 60, 0, 0);
